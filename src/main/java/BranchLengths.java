@@ -15,7 +15,7 @@ public final class BranchLengths {
     // The number of the mark that a branch goes to; NONE tells that an item is no branch.
     private final int[] targets;
     private final int[] places;
-    // The item that each mark is. Every mark is an item, so this never holds more than the row.
+    // The item that each mark is.
     private final int[] markItems;
     private int itemCount;
     private int markCount;
@@ -45,6 +45,9 @@ public final class BranchLengths {
     }
 
     public int mark() {
+        if (markCount >= MOST_ITEMS) {
+            return NONE;
+        }
         int item = append(0, NONE);
         if (item != NONE) {
             markItems[markCount] = item;
@@ -132,7 +135,15 @@ public final class BranchLengths {
     }
 
     private boolean isLaid(int item) {
-        return laidOut && item >= 0 && item < itemCount;
+        return laidOut && isItem(item);
+    }
+
+    private boolean isItem(int number) {
+        return number >= 0 && number < itemCount;
+    }
+
+    private boolean isMark(int number) {
+        return number >= 0 && number < markCount;
     }
 
     private boolean isBranch(int item) {
@@ -141,7 +152,7 @@ public final class BranchLengths {
 
     private int firstMarkless() {
         for (int item = 0; item < itemCount; item++) {
-            if (targets[item] >= markCount) {
+            if (isBranch(item) && !isMark(targets[item])) {
                 return item;
             }
         }
@@ -179,8 +190,14 @@ public final class BranchLengths {
         return lengthened;
     }
 
+    // lay() goes on only if every branch's mark is there; it is looked at once more because the
+    // numbers are used as indexes.
     private boolean reachesShort(int branchItem) {
-        int way = places[markItems[targets[branchItem]]] - places[branchItem];
+        int mark = targets[branchItem];
+        if (!isMark(mark) || !isItem(markItems[mark])) {
+            return false;
+        }
+        int way = places[markItems[mark]] - places[branchItem];
         return way >= -reachNow && way <= reachNow;
     }
 }
